@@ -100,6 +100,14 @@ public final class FaultTest {
         Told u = new Told();
         u.x.start(u.until(u.plus(u.number(1), u.over(u.number(1), u.signal(0)))));
         C.due("a fault in an until", u.x.tick(1), 2);
+        u.x.signal(0, 1);
+        u.x.start(u.until(u.plus(u.number(-1), u.over(u.number(1), u.signal(0)))));
+        u.x.tick(1);
+        u.x.signal(0, 0);
+        C.due("and in a later look", u.x.tick(1), 2);
+        u.x.signal(0, 1);
+        u.x.hold(false);
+        C.due("it has not ended by that", u.x.tick(1), 0);
     }
 
     private static void limitLookedAtAgain() {
@@ -219,6 +227,10 @@ public final class FaultTest {
         t.x.start(t.repeat(t.number(3), rest));
         C.due("three rounds", t.x.tick(4), 1);
         C.due("three", t.x.value(1), 3);
+        t.x.start(t.repeat(t.number(2000), t.pause(t.less(t.second(), t.number(1)))));
+        t.x.tick(1);
+        C.due("the end of a wait and 1,001 begins", t.x.tick(1), 2);
+        C.due("one too many", t.x.alarm(0, 2), 2);
     }
 
     private static void closingStepsOnTheirWay() {
