@@ -385,6 +385,7 @@ public final class StepWalk {
         Spot first;
         Spot second;
         int stage;
+        /** The second of its begin; gotX and gotY are what x and y were then, from what a ramp's output was. */
         int since;
         long gotX;
         long gotY;
