@@ -322,15 +322,17 @@ public final class StepWalk {
         }
     }
 
-    /** The alarms of a run, and the nodes whose closing steps were done in it. */
+    /**
+     * The alarms of a run, and the nodes whose closing steps were done in it. Both counts stay at the last that is
+     * noted: in a long run more are done than an int can count.
+     */
     private static final class Log {
         private final int[] alarmSeconds = new int[MOST_NOTED];
         private final int[] alarmNodes = new int[MOST_NOTED];
         private final int[] alarmKinds = new int[MOST_NOTED];
         private final int[] closedNodes = new int[MOST_NOTED];
         private int alarms;
-        /** All of them, also those behind the last that is noted: stop tells how many it did. */
-        int closings;
+        private int closings;
 
         void clear() {
             alarms = 0;
@@ -348,9 +350,10 @@ public final class StepWalk {
         }
 
         void addClosed(int node) {
-            if (closings >= 0 && closings < closedNodes.length) {
-                closedNodes[closings] = node;
+            if (closings < 0 || closings >= closedNodes.length) {
+                return;
             }
+            closedNodes[closings] = node;
             closings++;
         }
 
@@ -628,12 +631,12 @@ public final class StepWalk {
             return spot.gotX < 1;
         }
 
-        /** Closing steps that had begun go on from where they stand. */
-        private void giveUp(Spot spot) {
+        /** How many closing steps were done by that; those that had begun go on from where they stand. */
+        private int giveUp(Spot spot) {
             if (spot == null || !spot.isOpen()) {
-                return;
+                return 0;
             }
-            giveUp(spot.first);
+            int done = giveUp(spot.first);
             if (spot.what == CLOSING) {
                 givingUp = true;
                 goOn(spot.second);
@@ -641,10 +644,12 @@ public final class StepWalk {
                 // A fault there ends those closing steps alone.
                 cut = false;
                 log.addClosed(spot.number);
+                done++;
             } else {
-                giveUp(spot.second);
+                done += giveUp(spot.second);
             }
             spot.stage = OVER;
+            return done;
         }
 
         /** When it faults, cut is set and what it answers means nothing. */
@@ -740,10 +745,9 @@ public final class StepWalk {
             if (!isLive()) {
                 return NONE;
             }
-            int before = log.closings;
-            giveUp(root);
+            int done = giveUp(root);
             state = STOPPED;
-            return log.closings - before;
+            return done;
         }
     }
 }
