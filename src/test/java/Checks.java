@@ -1,6 +1,7 @@
 /** Counts the answers that are as due, and prints every one that is not. */
 final class Checks {
     private final String name;
+    private String sentence = "";
     private int passed;
     private int failed;
 
@@ -8,12 +9,17 @@ final class Checks {
         this.name = name;
     }
 
+    /** The sentence of the document by which the answers from now on are due. */
+    void says(String where, String words) {
+        sentence = " (" + where + ": \"" + words + "\")";
+    }
+
     void due(String call, long got, long want) {
         if (got == want) {
             passed++;
         } else {
             failed++;
-            System.out.println(name + ": " + call + " answered " + got + ", due is " + want);
+            System.out.println(name + ": " + call + " answered " + got + ", due is " + want + sentence);
         }
     }
 

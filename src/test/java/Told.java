@@ -1,6 +1,10 @@
+import java.util.HashMap;
+import java.util.Map;
+
 /** Tells a program to a new object, by the names of the document. */
 final class Told {
     final StepWalk x = new StepWalk();
+    private final Map<Integer, Integer> sums = new HashMap<>();
 
     int number(long v) {
         return x.leaf(0, v);
@@ -98,5 +102,41 @@ final class Told {
     /** A division by 0. */
     int broken() {
         return over(number(1), number(0));
+    }
+
+    /** An expression, 1 or 0, of that depth. */
+    int deepExpression(int depth) {
+        int one = number(1);
+        int all = one;
+        for (int d = 2; d <= depth; d++) {
+            all = minus(one, all);
+        }
+        return all;
+    }
+
+    /** A statement of that depth, at least 2, which fits closing steps: it sets output 9 to 1. */
+    int deepStatement(int depth) {
+        int all = set(9, number(1));
+        int one = all;
+        for (int d = 3; d <= depth; d++) {
+            all = then(one, all);
+        }
+        return all;
+    }
+
+    /** So many ones added up, which are 2 * ones - 1 leaves and nodes; halves keep it flat. */
+    int ones(int ones) {
+        if (!sums.containsKey(ones)) {
+            sums.put(ones, ones == 1 ? number(1) : plus(ones(ones / 2), ones(ones - ones / 2)));
+        }
+        return sums.get(ones);
+    }
+
+    /** Leaves, until there are so many leaves and nodes. */
+    void fill(int size) {
+        int last = -1;
+        for (int i = 0; i < size && last < size - 1; i++) {
+            last = number(0);
+        }
     }
 }
