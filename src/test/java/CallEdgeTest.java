@@ -268,7 +268,7 @@ public final class CallEdgeTest {
     }
 
     private static void tickStates() {
-        C.says("Promise 6", "0 it goes on, 1 it has ended, 2 it is held, 3 it is stopped. NONE, refused, without a run");
+        C.says("Promise 6", "0 it goes on, 1 it has ended, 2 it is held, 3 it is stopped. NONE, .. without a run");
         Told t = new Told();
         int rest = t.pause(t.number(2));
         for (int seconds : new int[] {-1, 0, 1, 10000, 10001}) {
